@@ -220,7 +220,8 @@ final class Model {
 
     /** Whether what was read of an item begins one. */
     private static boolean canStand(List<String> item, boolean first) {
-        String read = String.join(" ", item);
+        // a # of the text itself is no number
+        String read = String.join(" ", item).replace('#', '?');
         String[] forms = first ? new String[] {"villages # ;"}
             : new String[] {"hears # # # ;", "wood # # ;", "temper # # ;", "friend # # ;", "need # # # ;"};
         String form = read.replaceAll("(?<![0-9])[0-9]{1,2}(?![0-9])", "#");

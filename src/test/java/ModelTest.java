@@ -1,6 +1,6 @@
 /** Long runs of calls on the program and on Model: the answers must be alike. The same runs each time. */
 public final class ModelTest {
-    private static final int RUNS = 600, CALLS = 512;
+    private static final int RUNS = 600, CALLS = 400;
     private static final String[] WORDS = {"villages", "hears", "wood", "temper", "friend", "need", "bell", "woo", "x"};
     private static final int[] NUMBERS = {1, 3, 2, 2, 2, 3, 1, 2, 0};
 
@@ -20,11 +20,41 @@ public final class ModelTest {
             m = new Model();
             // some runs are of wild numbers, most of such as are mostly taken
             int wild = run % 5 == 0 ? 3 : 40;
+            if (run % 3 == 0) {
+                fill();
+            }
             for (int i = 0; i < CALLS; i++) {
                 step(run, i, wild);
             }
         }
         check.end();
+    }
+
+    /** A valley in which much is heard, much is shut, and few needs are seen by most: there are many like ways there. */
+    private void fill() {
+        int n = 4 + below(3);
+        due("villages", x.villages(n), m.villages(n));
+        for (int i = 0; i < 8 * n * n; i++) {
+            int bell = below(n);
+            int wind = below(4);
+            int village = below(n);
+            due("hears", x.hears(bell, wind, village, true), m.hears(bell, wind, village, true));
+        }
+        int shut = below(n);
+        for (int i = 0; i < 8; i++) {
+            int bell = below(n);
+            due("wood", x.wood(bell, shut), m.wood(bell, shut));
+        }
+        for (int i = below(4); i >= 0; i--) {
+            int wind = below(4);
+            int seen = (1 << n) - 1 - (1 << shut) & ~(1 << below(n));
+            due("need", x.need(shut, wind, seen), m.need(shut, wind, seen));
+            due("fell", x.fell(), m.fell());
+            due("ropes", x.ropes(-1), m.ropes(-1));
+            for (int bell = 0; bell < n; bell++) {
+                due("ropes", x.ropes(bell), m.ropes(bell));
+            }
+        }
     }
 
     private int below(int n) {

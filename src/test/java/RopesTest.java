@@ -198,7 +198,7 @@ public final class RopesTest {
         CHECK.due("one for each", x.fell(), 24);
         x.undo();
         x.need(0, 0, 12);
-        CHECK.due("of like ones the least bits", x.fell(), 8);
+        CHECK.due("one for both", x.fell(), 8);
         x.need(0, 1, 14);
         CHECK.due("none is heard in that wind", x.fell(), -1);
         x.undo();
@@ -221,5 +221,28 @@ public final class RopesTest {
         }
         x.need(0, 0, 2);
         CHECK.due("all eight", x.fell(), 255);
+
+        x = new BlindBells();
+        x.hears(1, 0, 0, true);
+        x.hears(2, 0, 0, true);
+        x.hears(3, 0, 0, true);
+        x.wood(1, 2);
+        x.wood(3, 0);
+        x.wood(1, 0);
+        x.wood(2, 0);
+        x.need(0, 0, 14);
+        CHECK.due("of like ones the least bits", x.fell(), 2);
+        x.need(0, 0, 6);
+        CHECK.due("one of both, as few: the least bits", x.fell(), 4);
+
+        x = new BlindBells();
+        x.hears(0, 0, 1, true);
+        x.wood(0, 1);
+        x.need(1, 0, 1);
+        CHECK.due("bell 0", x.fell(), 1);
+        x.villages(4);
+        x.hears(0, 0, 1, true);
+        x.need(1, 0, 1);
+        CHECK.due("nothing is left of earlier woods", x.fell(), 0);
     }
 }

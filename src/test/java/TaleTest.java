@@ -9,6 +9,7 @@ public final class TaleTest {
         faults();
         refused();
         toldAnew();
+        endsWhereItEnds();
         CHECK.end();
     }
 
@@ -100,6 +101,8 @@ public final class TaleTest {
         fault("Villages 3;", 0);
         fault("villages 3;Wood 0 1;", 11);
         fault("villages 3;woodS 0 1;", 15);
+        fault("villages 3;woodz 0 1;", 11);
+        fault("villages 3;awood 0 1;", 11);
         fault("villages -3;", 9);
         fault("villages 3,", 10);
         fault("villages\t3;", 8);
@@ -110,6 +113,7 @@ public final class TaleTest {
         fault("villages 3{;", 10);
         fault("villages 3:;", 10);
         fault("villages 3/;", 10);
+        fault("villages 3;wood9 0 1;", 19);
         // a fault behind an item that would be refused goes ahead of it
         fault("villages 9;x", 11);
         fault("villages 3;hears 0 0 0;need", 27);
@@ -188,5 +192,16 @@ public final class TaleTest {
         CHECK.due("images stay", x.from(0), 1);
         CHECK.due("as it was", x.count(3), 1);
         CHECK.due("the text stays", x.count(4), 23);
+    }
+
+    /** What an earlier, longer text had behind the end is no part of a token. */
+    private static void endsWhereItEnds() {
+        BlindBells x = new BlindBells();
+        Check.read(x, "villages");
+        CHECK.due("a word cut short", Check.read(x, "village"), -10);
+        Check.read(x, "villages 123");
+        CHECK.due("a number cut short", Check.read(x, "villages 12"), -21);
+        Check.read(x, "villages 3;");
+        CHECK.due("its end cut off", Check.read(x, "villages 3"), -20);
     }
 }

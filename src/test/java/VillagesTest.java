@@ -104,6 +104,15 @@ public final class VillagesTest {
         CHECK.due("in no wind", x.heard(0, 0), 0);
         CHECK.due("others hear it", x.heard(0, 2), 2);
         CHECK.due("a ninth", x.wood(1, 0), -4);
+        x.villages(6);
+        x.hears(0, 2, 1, true);
+        x.hears(0, 2, 5, true);
+        x.wood(0, 5);
+        x.wood(0, 1);
+        CHECK.due("two of one bell", x.heard(0, 2), 0);
+        for (int i = 2; i < 8; i++) {
+            x.wood(0, 5);
+        }
         CHECK.due("a ninth, its own: BAD goes ahead", x.wood(1, 1), -2);
         CHECK.due("bell 6", x.wood(6, 0), -2);
         CHECK.due("bell -1", x.wood(-1, 0), -2);
