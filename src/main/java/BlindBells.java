@@ -302,7 +302,7 @@ public final class BlindBells {
         final int[] friend = new int[MOST_VILLAGES];
         final int[] rope = new int[MOST_VILLAGES];
         final int[] hears = new int[MOST_VILLAGES * WINDS];
-        /** Of a bell the villages in which woods shut it out: it follows from the woods, and spares going through them. */
+        /** Of a bell the villages that woods shut it out of: it follows from the woods, and spares going through them. */
         final int[] shut = new int[MOST_VILLAGES];
         final int[] woodBell = new int[MOST_WOODS];
         final int[] woodVillage = new int[MOST_WOODS];
@@ -639,7 +639,7 @@ public final class BlindBells {
         }
     }
 
-    /** The best way to give ropes: tried in the order of who rings bell 0, 1, .., so that the first of like ones stays. */
+    /** The best way to give ropes: tried by who rings bell 0, 1, .., so that the first of like ones stays. */
     private static final class RopeSearch {
         final int[] best = new int[MOST_VILLAGES];
         int most;
