@@ -814,16 +814,15 @@ public final class BlindBells {
             word = NONE;
             items = 0;
             refused = NONE;
-            int at = 0;
-            while (at < length) {
-                int end = at + 1;
-                if (text[at] != ' ') {
+            int end = 0;
+            for (int at = 0; at < length; at++) {
+                // what is ahead of the end belongs to a token that stands
+                if (at >= end && text[at] != ' ') {
                     end = endOfToken(at);
                     if (!stands(at, end, draft)) {
                         return FAULT_FROM - at;
                     }
                 }
-                at = end;
             }
             if (items == 0 || word != NONE) {
                 return FAULT_FROM - length;

@@ -1,6 +1,8 @@
 /** Long runs of calls on the program and on Model: the answers must be alike. The same runs each time. */
 public final class ModelTest {
-    private static final int RUNS = 600, CALLS = 400;
+    private static final int RUNS = 900;
+    /** An object has 512 calls; the longest step, a tale of 250 bytes, has some 40 of them. */
+    private static final int CALLS = 460;
     private static final String[] WORDS = {"villages", "hears", "wood", "temper", "friend", "need", "bell", "woo", "x"};
     private static final int[] NUMBERS = {1, 3, 2, 2, 2, 3, 1, 2, 0};
 
@@ -9,6 +11,7 @@ public final class ModelTest {
     private BlindBells x;
     private Model m;
     private String call;
+    private int calls;
 
     public static void main(String[] args) {
         new ModelTest().go();
@@ -18,13 +21,14 @@ public final class ModelTest {
         for (int run = 0; run < RUNS; run++) {
             x = new BlindBells();
             m = new Model();
+            calls = 0;
             // some runs are of wild numbers, most of such as are mostly taken
             int wild = run % 5 == 0 ? 3 : 40;
             if (run % 3 == 0) {
                 fill();
             }
-            for (int i = 0; i < CALLS; i++) {
-                step(run, i, wild);
+            while (calls < CALLS) {
+                step(run, wild);
             }
         }
         check.end();
@@ -34,11 +38,13 @@ public final class ModelTest {
     private void fill() {
         int n = 4 + below(3);
         due("villages", x.villages(n), m.villages(n));
-        for (int i = 0; i < 8 * n * n; i++) {
-            int bell = below(n);
-            int wind = below(4);
-            int village = below(n);
-            due("hears", x.hears(bell, wind, village, true), m.hears(bell, wind, village, true));
+        for (int i = 0; i < 4 * n * n; i++) {
+            int bell = i % n;
+            int wind = i / n % 4;
+            int village = i / n / 4;
+            if (below(5) != 0) {
+                due("hears", x.hears(bell, wind, village, true), m.hears(bell, wind, village, true));
+            }
         }
         int shut = below(n);
         for (int i = 0; i < 8; i++) {
@@ -70,7 +76,7 @@ public final class ModelTest {
         return low + below(high - low + 1);
     }
 
-    private void step(int run, int i, int wild) {
+    private void step(int run, int wild) {
         int n = m.count(0);
         int v = number(0, n - 1, wild);
         int w = number(0, n - 1, wild);
@@ -87,11 +93,12 @@ public final class ModelTest {
             ask(kind, wild, new int[] {v, w, wind, bits, two, asked});
         }
         if (kind < 50) {
-            check.due("run " + run + ", call " + i + ", " + call + ": digest", x.digest(), m.digest());
+            due("run " + run + ", call " + calls + ", behind " + call + ": digest", x.digest(), m.digest());
         }
     }
 
     private void due(String name, long got, long want) {
+        calls++;
         call = name;
         check.due(name, got, want);
     }
@@ -158,8 +165,13 @@ public final class ModelTest {
         if (below(4) == 0) {
             tale.setCharAt(below(tale.length()), (char) below(256));
         }
-        for (int i = 0; i < tale.length(); i++) {
-            due("type", x.type(tale.charAt(i), 1), m.type(tale.charAt(i), 1));
+        for (int from = 0; from < tale.length(); from += 8) {
+            int to = Math.min(from + 8, tale.length());
+            long bytes = 0;
+            for (int i = from; i < to; i++) {
+                bytes = bytes << 8 | tale.charAt(i);
+            }
+            due("type", x.type(bytes, to - from), m.type(bytes, to - from));
         }
     }
 
