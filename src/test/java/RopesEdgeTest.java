@@ -25,6 +25,8 @@ public final class RopesEdgeTest {
         wordGoesByRopes();
         fellOfNothing();
         fellOfAllEight();
+        fellOfTheFirstAndTheLastBell();
+        fellTwice();
         fellNone();
         fellTheFewest();
         fellTheLeastBitsOfLikeOnes();
@@ -83,6 +85,8 @@ public final class RopesEdgeTest {
             Valleys hears = need.and(x -> x.hears(2, wind, 1, true));
             ropesAre("1 hears bell 2 in wind " + wind, hears, 0, 0, 1, 2, 3);
             ropesAre("but not behind a wood", hears.and(x -> x.wood(2, 1)), 1, 0, 2, 1, 3);
+            Valleys idle = need.and(x -> x.hears(1, wind, 2, true));
+            ropesAre("2 hears bell 1 in wind " + wind + ", and must not ring it for nothing", idle, 1, 0, 3, 1, 2);
         }
     }
 
@@ -333,6 +337,24 @@ public final class RopesEdgeTest {
             x.need(0, 0, 2);
         });
         EDGE.asked("the eighth alone", lastAlone, BlindBells::fell, 128);
+    }
+
+    private static void fellOfTheFirstAndTheLastBell() {
+        for (int n = 2; n <= 6; n++) {
+            int last = n - 1;
+            Valleys first = villages(n).and(x -> x.hears(0, 3, last, true)).and(x -> x.need(last, 3, 1));
+            EDGE.asked("the first bell", first.and(x -> x.wood(0, last)), BlindBells::fell, 1);
+            Valleys end = villages(n).and(x -> x.hears(last, 3, 0, true)).and(x -> x.need(0, 3, 1 << last));
+            EDGE.asked("the last bell", end.and(x -> x.wood(last, 0)), BlindBells::fell, 1);
+        }
+    }
+
+    /** What one call has found out of the woods is nothing to the next. */
+    private static void fellTwice() {
+        EDGE.asked("the same answer twice", woods(8), x -> x.fell() == x.fell() ? x.fell() : -9, 255);
+        Valleys anew = woods(8).and(x -> x.fell()).and(x -> x.villages(4));
+        EDGE.asked("all woods are gone", anew.and(x -> x.hears(1, 0, 0, true)).and(x -> x.need(0, 0, 2)),
+            BlindBells::fell, 0);
     }
 
     private static void fellNone() {

@@ -271,6 +271,8 @@ public final class VillagesEdgeTest {
         }
         x.hears(2, 0, 1, true);
         EDGE.due("told later, and shut", x.heard(2, 0), 0);
+        x.wood(0, 2);
+        EDGE.due("a second wood leaves the first", x.heard(0, 3), 0);
     }
 
     // ---- 5: what it was. BAD
