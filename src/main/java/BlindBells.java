@@ -302,7 +302,7 @@ public final class BlindBells {
         final int[] friend = new int[MOST_VILLAGES];
         final int[] rope = new int[MOST_VILLAGES];
         final int[] hears = new int[MOST_VILLAGES * WINDS];
-        /** Of a bell the villages that woods shut it out of: it follows from the woods, and spares going through them. */
+        /** Of a bell the villages that woods shut it out of: it follows from the woods, and spares looking at them. */
         final int[] shut = new int[MOST_VILLAGES];
         final int[] woodBell = new int[MOST_WOODS];
         final int[] woodVillage = new int[MOST_WOODS];

@@ -66,6 +66,14 @@ final class Edge {
         }
     }
 
+    /** The call is BAD for each village there is: told of itself, or alike. */
+    void badForEach(String what, Valleys valley, NumberCall call) {
+        for (int v = 0; v < valley.n; v++) {
+            int village = v;
+            bad(what + " " + v, valley, x -> call.on(x, village));
+        }
+    }
+
     void end() {
         check.end();
     }

@@ -34,7 +34,7 @@ public final class ModelTest {
         check.end();
     }
 
-    /** A valley in which much is heard, much is shut, and few needs are seen by most: there are many like ways there. */
+    /** A valley in which much is heard, much is shut, and few needs are seen by most: it has many like ways. */
     private void fill() {
         int n = 4 + below(3);
         due("villages", x.villages(n), m.villages(n));

@@ -33,10 +33,6 @@ public final class RopesEdgeTest {
         EDGE.end();
     }
 
-    private static Valleys villages(int n) {
-        return Valleys.of(x -> x.villages(n));
-    }
-
     private static void ropesAre(String what, Valleys valley, int most, int... rings) {
         EDGE.asked(what + ": ropes(-1)", valley, x -> x.ropes(-1), most);
         for (int i = 0; i < rings.length; i++) {
@@ -66,10 +62,10 @@ public final class RopesEdgeTest {
     private static void ropesOfNoNeeds() {
         for (int n = 2; n <= 6; n++) {
             int last = n - 1;
-            ropesAre("no needs", villages(n), 0, own(n));
-            ropesAre("no needs, ropes changed", villages(n).and(x -> x.change(0, last)), 0, own(n));
-            ropesAre("a need seen by none", villages(n).and(x -> x.need(last, 0, 0)), 0, own(n));
-            ropesAre("a need in which nothing is heard", villages(n).and(x -> x.need(0, 3, 2)), 0, own(n));
+            ropesAre("no needs", Valleys.villages(n), 0, own(n));
+            ropesAre("no needs, ropes changed", Valleys.villages(n).and(x -> x.change(0, last)), 0, own(n));
+            ropesAre("a need seen by none", Valleys.villages(n).and(x -> x.need(last, 0, 0)), 0, own(n));
+            ropesAre("a need in which nothing is heard", Valleys.villages(n).and(x -> x.need(0, 3, 2)), 0, own(n));
         }
     }
 
@@ -93,7 +89,7 @@ public final class RopesEdgeTest {
     private static void ropesWhenAllIsHeard() {
         for (int n = 2; n <= 6; n++) {
             int last = n - 1;
-            Valleys loud = villages(n).and(x -> {
+            Valleys loud = Valleys.villages(n).and(x -> {
                 for (int bell = 0; bell <= last; bell++) {
                     for (int v = 0; v <= last; v++) {
                         x.hears(bell, v % 4, v, true);
@@ -108,7 +104,7 @@ public final class RopesEdgeTest {
     }
 
     private static void ropesOfTwelveNeeds() {
-        Valleys twelve = villages(6).and(x -> {
+        Valleys twelve = Valleys.villages(6).and(x -> {
             x.hears(5, 3, 0, true);
             for (int i = 0; i < 12; i++) {
                 x.need(0, 3, i < 11 ? 18 : 2);
@@ -119,7 +115,7 @@ public final class RopesEdgeTest {
     }
 
     private static void ropesTheFirstOfLikeOnes() {
-        Valleys need = villages(6).and(x -> {
+        Valleys need = Valleys.villages(6).and(x -> {
             x.hears(0, 0, 1, true);
             x.need(1, 0, 60);
         });
@@ -147,9 +143,10 @@ public final class RopesEdgeTest {
         }
         for (int n = 2; n <= 6; n++) {
             int last = n - 1;
-            EDGE.asked("the last bell", villages(n), x -> x.rope(last), last);
-            EDGE.asked("the last bell, changed", villages(n).and(x -> x.change(0, last)), x -> x.rope(last), 0);
-            EDGE.asked("the first bell, changed", villages(n).and(x -> x.change(0, last)), x -> x.rope(0), last);
+            EDGE.asked("the last bell", Valleys.villages(n), x -> x.rope(last), last);
+            Valleys changed = Valleys.villages(n).and(x -> x.change(0, last));
+            EDGE.asked("the last bell, changed", changed, x -> x.rope(last), 0);
+            EDGE.asked("the first bell, changed", changed, x -> x.rope(0), last);
         }
     }
 
@@ -182,7 +179,7 @@ public final class RopesEdgeTest {
     }
 
     private static Valleys favours(int n, int[]... fromTo) {
-        return villages(n).and(x -> {
+        return Valleys.villages(n).and(x -> {
             for (int[] pair : fromTo) {
                 x.hears(pair[0], pair[1] % 4, pair[1], true);
             }
@@ -191,7 +188,7 @@ public final class RopesEdgeTest {
 
     private static void ringOfNone() {
         for (int n = 2; n <= 6; n++) {
-            ringIs("nothing is heard", villages(n));
+            ringIs("nothing is heard", Valleys.villages(n));
         }
         ringIs("a chain", favours(6, new int[][] {{0, 1}, {1, 2}, {2, 3}, {3, 4}, {4, 5}, {0, 5}, {0, 3}}));
     }
@@ -257,15 +254,15 @@ public final class RopesEdgeTest {
     private static void wordThatNobodyHears() {
         for (int n = 2; n <= 6; n++) {
             int last = n - 1;
-            EDGE.asked("no round", villages(n), x -> x.word(last, 3, 0), 0);
-            EDGE.asked("it knows alone", villages(n), x -> x.word(last, 3, 1), 1 << last);
+            EDGE.asked("no round", Valleys.villages(n), x -> x.word(last, 3, 0), 0);
+            EDGE.asked("it knows alone", Valleys.villages(n), x -> x.word(last, 3, 1), 1 << last);
         }
     }
 
     private static void wordAllRound() {
         for (int n = 2; n <= 6; n++) {
             int last = n - 1;
-            Valleys chain = villages(n).and(x -> {
+            Valleys chain = Valleys.villages(n).and(x -> {
                 for (int v = 0; v < last; v++) {
                     x.hears(v, 3, v + 1, true);
                 }
@@ -279,7 +276,7 @@ public final class RopesEdgeTest {
             EDGE.asked("from the last", back, x -> x.word(last, 3, 0), last);
             Valleys shut = back.and(x -> x.wood(0, 1));
             EDGE.asked("a wood ends it", shut, x -> x.word(0, 3, 1), 1);
-            Valleys atOnce = villages(n).and(x -> {
+            Valleys atOnce = Valleys.villages(n).and(x -> {
                 for (int v = 0; v < last; v++) {
                     x.hears(last, 0, v, true);
                 }
@@ -342,9 +339,9 @@ public final class RopesEdgeTest {
     private static void fellOfTheFirstAndTheLastBell() {
         for (int n = 2; n <= 6; n++) {
             int last = n - 1;
-            Valleys first = villages(n).and(x -> x.hears(0, 3, last, true)).and(x -> x.need(last, 3, 1));
+            Valleys first = Valleys.villages(n).and(x -> x.hears(0, 3, last, true)).and(x -> x.need(last, 3, 1));
             EDGE.asked("the first bell", first.and(x -> x.wood(0, last)), BlindBells::fell, 1);
-            Valleys end = villages(n).and(x -> x.hears(last, 3, 0, true)).and(x -> x.need(0, 3, 1 << last));
+            Valleys end = Valleys.villages(n).and(x -> x.hears(last, 3, 0, true)).and(x -> x.need(0, 3, 1 << last));
             EDGE.asked("the last bell", end.and(x -> x.wood(last, 0)), BlindBells::fell, 1);
         }
     }

@@ -132,7 +132,7 @@ public final class SignsEdgeTest {
 
     // ---- 25: FROM, as bits. BAD: VILLAGES in both, too
 
-    /** Five bells; in wind 3 bell 0 is heard in 1, 2, 3, bell 1 in 2, 3, bell 2 in 3, bell 3 in 2, 4, bell 4 nowhere. */
+    /** In wind 3 bell 0 is heard in 1, 2, 3, bell 1 in 2, 3, bell 2 in 3, bell 3 in 2, 4, bell 4 nowhere. */
     private static Valleys strokes() {
         return Valleys.of(x -> {
             x.villages(5);
@@ -155,12 +155,9 @@ public final class SignsEdgeTest {
     private static void cameInBothIsBad() {
         for (Valleys valley : Valleys.ALL) {
             int all = (1 << valley.n) - 1;
-            for (int v = 0; v < valley.n; v++) {
-                int bit = 1 << v;
-                EDGE.bad("came, in both: " + v, valley, x -> x.came(0, bit, bit));
-                EDGE.bad("came, in both, and all heard: " + v, valley, x -> x.came(0, all, bit));
-                EDGE.bad("came, in both, and all not: " + v, valley, x -> x.came(0, bit, all));
-            }
+            EDGE.badForEach("came, in both", valley, (x, v) -> x.came(0, 1 << v, 1 << v));
+            EDGE.badForEach("came, in both, and all heard", valley, (x, v) -> x.came(0, all, 1 << v));
+            EDGE.badForEach("came, in both, and all not", valley, (x, v) -> x.came(0, 1 << v, all));
         }
     }
 
@@ -204,12 +201,9 @@ public final class SignsEdgeTest {
     private static void askInBothIsBad() {
         for (Valleys valley : Valleys.ALL) {
             int all = (1 << valley.n) - 1;
-            for (int v = 0; v < valley.n; v++) {
-                int bit = 1 << v;
-                EDGE.bad("ask, in both: " + v, valley, x -> x.ask(0, bit, bit));
-                EDGE.bad("ask, in both, and all heard: " + v, valley, x -> x.ask(0, all, bit));
-                EDGE.bad("ask, in both, and all not: " + v, valley, x -> x.ask(0, bit, all));
-            }
+            EDGE.badForEach("ask, in both", valley, (x, v) -> x.ask(0, 1 << v, 1 << v));
+            EDGE.badForEach("ask, in both, and all heard", valley, (x, v) -> x.ask(0, all, 1 << v));
+            EDGE.badForEach("ask, in both, and all not", valley, (x, v) -> x.ask(0, 1 << v, all));
         }
     }
 

@@ -173,8 +173,8 @@ public final class TaleEdgeTest {
     }
 
     private static void readOfATextThatEndsTooEarly() {
-        String[] tokens = {"villages", " 6", ";", "hears", " 0", " 0", " 1", ";", "wood", " 0", " 1", ";", "temper", " 0",
-            " 1", ";", "friend", " 0", " 1", ";", "need", " 0", " 0", " 2", ";"};
+        String[] tokens = {"villages", " 6", ";", "hears", " 0", " 0", " 1", ";", "wood", " 0", " 1", ";",
+            "temper", " 0", " 1", ";", "friend", " 0", " 1", ";", "need", " 0", " 0", " 2", ";"};
         StringBuilder text = new StringBuilder();
         int items = 0;
         for (String token : tokens) {
@@ -438,8 +438,8 @@ public final class TaleEdgeTest {
         String good = "villages 2;need 0 0 2;";
         BlindBells fresh = new BlindBells();
         Check.read(fresh, good);
-        String[] wrong = {"villages 6;hears 0 0 1;wood 0 1;temper 0 1;friend 0 1;need 0 0 2;x",
-            "villages 6;hears 0 0 1;wood 0 1;temper 0 1;friend 0 1;need 0 0 2;wood 0 0;", "villages 6;wood 1", "villages"};
+        String each = "villages 6;hears 0 0 1;wood 0 1;temper 0 1;friend 0 1;need 0 0 2;";
+        String[] wrong = {each + "x", each + "wood 0 0;", "villages 6;wood 1", "villages"};
         for (String text : wrong) {
             BlindBells x = new BlindBells();
             EDGE.due("wrong: " + text, Check.read(x, text) < 0 ? 1 : 0, 1);
@@ -462,7 +462,8 @@ public final class TaleEdgeTest {
             EDGE.due("no signs", x.count(3), 0);
             for (int bell = 0; bell < 6; bell++) {
                 EDGE.due("ropes as at first", x.rope(bell), bell);
-                EDGE.due("no woods", x.hears(bell, 0, (bell + 1) % 6, true) + x.heard(bell, 0), 1 + (1 << (bell + 1) % 6));
+                int next = (bell + 1) % 6;
+                EDGE.due("no woods", x.hears(bell, 0, next, true) + x.heard(bell, 0), 1 + (1 << next));
             }
         }
         BlindBells x = Valleys.CRAMMED.make();
@@ -477,7 +478,8 @@ public final class TaleEdgeTest {
 
     private static void toldInTheirOrder() {
         BlindBells x = new BlindBells();
-        Check.read(x, "villages 3;temper 0 1;temper 0 2;friend 0 1;friend 0 2;wood 0 1;wood 1 2;need 0 0 2;need 1 1 4;");
+        Check.read(x, "villages 3;temper 0 1;temper 0 2;friend 0 1;friend 0 2;"
+            + "wood 0 1;wood 1 2;need 0 0 2;need 1 1 4;");
         EDGE.due("the later temper", x.temper(0, 0), 2);
         EDGE.due("the later friend", x.friendOf(0, 0), 2);
         x.clear();

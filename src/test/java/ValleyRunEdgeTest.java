@@ -39,22 +39,8 @@ public final class ValleyRunEdgeTest {
         EDGE.end();
     }
 
-    /** n villages, each bell heard in all others in wind 0. */
-    private static BlindBells allHear(int n) {
-        BlindBells x = new BlindBells();
-        x.villages(n);
-        for (int bell = 0; bell < n; bell++) {
-            for (int village = 0; village < n; village++) {
-                if (bell != village) {
-                    x.hears(bell, 0, village, true);
-                }
-            }
-        }
-        return x;
-    }
-
     private static BlindBells allHear(int n, int... tempers) {
-        BlindBells x = allHear(n);
+        BlindBells x = Valleys.allHear(n);
         for (int v = 0; v < tempers.length; v++) {
             x.temper(v, tempers[v]);
         }
@@ -420,10 +406,7 @@ public final class ValleyRunEdgeTest {
 
     private static void favoursAlikeIsBad() {
         for (Valleys valley : Valleys.ALL) {
-            for (int v = 0; v < valley.n; v++) {
-                int alike = v;
-                EDGE.bad("favours, alike: " + v, valley, x -> x.favours(alike, alike));
-            }
+            EDGE.badForEach("favours, alike", valley, (x, alike) -> x.favours(alike, alike));
         }
     }
 
@@ -457,10 +440,7 @@ public final class ValleyRunEdgeTest {
 
     private static void lastAlikeIsBad() {
         for (Valleys valley : Valleys.ALL) {
-            for (int v = 0; v < valley.n; v++) {
-                int alike = v;
-                EDGE.bad("last, alike: " + v, valley, x -> x.last(alike, alike));
-            }
+            EDGE.badForEach("last, alike", valley, (x, alike) -> x.last(alike, alike));
         }
     }
 

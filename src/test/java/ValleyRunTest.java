@@ -17,20 +17,6 @@ public final class ValleyRunTest {
         CHECK.end();
     }
 
-    /** n villages, each bell heard in all others in wind 0. */
-    private static BlindBells allHear(int n) {
-        BlindBells x = new BlindBells();
-        x.villages(n);
-        for (int bell = 0; bell < n; bell++) {
-            for (int village = 0; village < n; village++) {
-                if (bell != village) {
-                    x.hears(bell, 0, village, true);
-                }
-            }
-        }
-        return x;
-    }
-
     private static void rang(BlindBells x, String when, int... due) {
         for (int i = 0; i < due.length; i++) {
             CHECK.due(when + ": rang(" + i + ", 1)", x.rang(i, 1), due[i]);
@@ -62,7 +48,7 @@ public final class ValleyRunTest {
     }
 
     private static void tit() {
-        BlindBells x = allHear(3);
+        BlindBells x = Valleys.allHear(3);
         x.temper(0, TIT);
         x.temper(1, PROUD);
         x.need(1, 0, 1);
@@ -74,7 +60,7 @@ public final class ValleyRunTest {
         // 0 rings for 1 twice; 1 owes, and rings once: still owes, so 1 is no traitor, and 0 rings on
         rang(x, "TIT is paid back", 1, 1, 2, 4, 1, 1);
 
-        x = allHear(3);
+        x = Valleys.allHear(3);
         x.temper(0, TIT);
         x.temper(1, PROUD);
         x.need(1, 0, 1);
@@ -89,7 +75,7 @@ public final class ValleyRunTest {
         CHECK.due("last(1, 0)", x.last(1, 0), 0);
         CHECK.due("last(2, 0)", x.last(2, 0), 1);
 
-        x = allHear(3);
+        x = Valleys.allHear(3);
         x.temper(0, TIT);
         x.temper(1, PROUD);
         x.need(0, 0, 2);
@@ -100,7 +86,7 @@ public final class ValleyRunTest {
         x.temper(1, TRUE);
         rang(x, "another temper, another run", 2, 1, 5);
 
-        x = allHear(3);
+        x = Valleys.allHear(3);
         x.temper(0, TIT);
         x.temper(1, PROUD);
         x.need(0, 0, 0);
@@ -111,7 +97,7 @@ public final class ValleyRunTest {
     }
 
     private static void sulky() {
-        BlindBells x = allHear(3);
+        BlindBells x = Valleys.allHear(3);
         x.temper(0, SULKY);
         x.need(0, 0, 0);
         x.need(1, 0, 1);
@@ -120,7 +106,7 @@ public final class ValleyRunTest {
         x.temper(0, TIT);
         rang(x, "TIT does not", 0, 1, 1);
 
-        x = allHear(3);
+        x = Valleys.allHear(3);
         x.temper(0, SULKY);
         x.need(0, 0, 2);
         x.need(1, 0, 1);
@@ -129,7 +115,7 @@ public final class ValleyRunTest {
         // its own need was met; another's was not
         rang(x, "SULKY does not sulk", 2, 1, 0, 1);
 
-        x = allHear(3);
+        x = Valleys.allHear(3);
         x.temper(0, SULKY);
         x.temper(1, PROUD);
         x.need(0, 0, 2);
@@ -141,7 +127,7 @@ public final class ValleyRunTest {
     }
 
     private static void fond() {
-        BlindBells x = allHear(3);
+        BlindBells x = Valleys.allHear(3);
         x.temper(0, FOND);
         x.temper(1, PROUD);
         x.temper(2, PROUD);
@@ -163,7 +149,7 @@ public final class ValleyRunTest {
     }
 
     private static void proud() {
-        BlindBells x = allHear(3);
+        BlindBells x = Valleys.allHear(3);
         x.temper(0, PROUD);
         x.need(1, 0, 1);
         x.need(0, 0, 2);
@@ -179,7 +165,7 @@ public final class ValleyRunTest {
     }
 
     private static void deaf() {
-        BlindBells x = allHear(3);
+        BlindBells x = Valleys.allHear(3);
         x.temper(0, DEAF);
         x.temper(1, PROUD);
         x.need(0, 0, 2);
@@ -191,7 +177,7 @@ public final class ValleyRunTest {
     }
 
     private static void allAtOnce() {
-        BlindBells x = allHear(4);
+        BlindBells x = Valleys.allHear(4);
         for (int v = 0; v < 4; v++) {
             x.temper(v, PROUD);
         }
@@ -204,7 +190,7 @@ public final class ValleyRunTest {
     }
 
     private static void helped() {
-        BlindBells x = allHear(3);
+        BlindBells x = Valleys.allHear(3);
         CHECK.due("helped(-1) of none", x.helped(-1), 0);
         x.temper(2, PROUD);
         x.need(0, 0, 6);
@@ -223,7 +209,7 @@ public final class ValleyRunTest {
     }
 
     private static void favoursAndLast() {
-        BlindBells x = allHear(3);
+        BlindBells x = Valleys.allHear(3);
         x.temper(2, PROUD);
         for (int i = 0; i < 3; i++) {
             x.need(0, 0, 2);
@@ -248,7 +234,7 @@ public final class ValleyRunTest {
     }
 
     private static void wrongInputs() {
-        BlindBells x = allHear(3);
+        BlindBells x = Valleys.allHear(3);
         x.need(0, 0, 2);
         CHECK.due("rang(1, 0)", x.rang(1, 0), -2);
         CHECK.due("rang(-1, 0)", x.rang(-1, 0), -2);

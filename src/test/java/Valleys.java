@@ -27,6 +27,25 @@ final class Valleys {
         return new Valleys(x.count(0), told);
     }
 
+    /** Nothing told but how many villages there are. */
+    static Valleys villages(int n) {
+        return of(x -> x.villages(n));
+    }
+
+    /** n villages, each bell heard in all others in wind 0. */
+    static BlindBells allHear(int n) {
+        BlindBells x = new BlindBells();
+        x.villages(n);
+        for (int bell = 0; bell < n; bell++) {
+            for (int village = 0; village < n; village++) {
+                if (bell != village) {
+                    x.hears(bell, 0, village, true);
+                }
+            }
+        }
+        return x;
+    }
+
     /** This valley, told something more. */
     Valleys and(Consumer<BlindBells> more) {
         return of(told.andThen(more));

@@ -81,8 +81,8 @@ public final class VillagesEdgeTest {
 
     private static void villagesAre2To6() {
         for (Valleys valley : Valleys.ALL) {
-            EDGE.taken("villages(2), the fewest", valley, x -> x.villages(2), valley.n);
-            EDGE.taken("villages(6), the most", valley, x -> x.villages(6), valley.n);
+            EDGE.taken("Valleys.villages(2), the fewest", valley, x -> x.villages(2), valley.n);
+            EDGE.taken("Valleys.villages(6), the most", valley, x -> x.villages(6), valley.n);
             EDGE.badOutside("villages", 2, 6, valley, BlindBells::villages);
         }
     }
@@ -97,7 +97,7 @@ public final class VillagesEdgeTest {
             EDGE.due("no more of them", x.rope(n), -2);
             was = n;
         }
-        EDGE.due("villages(6), what it is", x.villages(6), 6);
+        EDGE.due("Valleys.villages(6), what it is", x.villages(6), 6);
     }
 
     private static void villagesTellsNothingElse() {
@@ -175,7 +175,7 @@ public final class VillagesEdgeTest {
         }
         for (int n = 2; n <= 6; n++) {
             int last = n - 1;
-            Valleys quiet = villages(n);
+            Valleys quiet = Valleys.villages(n);
             EDGE.taken("hears: the first bell, the last village", quiet, x -> x.hears(0, 0, last, true), 1);
             EDGE.taken("hears: the last bell, the first village", quiet, x -> x.hears(last, 0, 0, true), 1);
             EDGE.taken("hears: the last wind", quiet, x -> x.hears(last, 3, 0, true), 1);
@@ -184,11 +184,8 @@ public final class VillagesEdgeTest {
 
     private static void hearsItsOwnIsBad() {
         for (Valleys valley : Valleys.ALL) {
-            for (int v = 0; v < valley.n; v++) {
-                int own = v;
-                EDGE.bad("hears its own: " + v, valley, x -> x.hears(own, 0, own, true));
-                EDGE.bad("hears its own not: " + v, valley, x -> x.hears(own, 3, own, false));
-            }
+            EDGE.badForEach("hears its own", valley, (x, own) -> x.hears(own, 0, own, true));
+            EDGE.badForEach("hears its own not", valley, (x, own) -> x.hears(own, 3, own, false));
         }
     }
 
@@ -223,17 +220,14 @@ public final class VillagesEdgeTest {
         }
         for (int n = 2; n <= 6; n++) {
             int last = n - 1;
-            EDGE.taken("wood: the first bell, the last village", villages(n), x -> x.wood(0, last), 0);
-            EDGE.taken("wood: the last bell, the first village", villages(n), x -> x.wood(last, 0), 0);
+            EDGE.taken("wood: the first bell, the last village", Valleys.villages(n), x -> x.wood(0, last), 0);
+            EDGE.taken("wood: the last bell, the first village", Valleys.villages(n), x -> x.wood(last, 0), 0);
         }
     }
 
     private static void woodItsOwnIsBad() {
         for (Valleys valley : Valleys.ALL) {
-            for (int v = 0; v < valley.n; v++) {
-                int own = v;
-                EDGE.bad("wood, its own: " + v, valley, x -> x.wood(own, own));
-            }
+            EDGE.badForEach("wood, its own", valley, (x, own) -> x.wood(own, own));
         }
     }
 
@@ -285,9 +279,9 @@ public final class VillagesEdgeTest {
         }
         for (int n = 2; n <= 6; n++) {
             int last = n - 1;
-            EDGE.taken("temper: the first, the last kind", villages(n), x -> x.temper(0, 5), 0);
-            EDGE.taken("temper: the last, the last kind", villages(n), x -> x.temper(last, 5), 0);
-            Valleys deaf = villages(n).and(x -> x.temper(last, 5));
+            EDGE.taken("temper: the first, the last kind", Valleys.villages(n), x -> x.temper(0, 5), 0);
+            EDGE.taken("temper: the last, the last kind", Valleys.villages(n), x -> x.temper(last, 5), 0);
+            Valleys deaf = Valleys.villages(n).and(x -> x.temper(last, 5));
             EDGE.taken("temper: the first kind, behind the last", deaf, x -> x.temper(last, 0), 5);
             EDGE.asked("temper: as it is", deaf, x -> x.temper(last, 5), 5);
             EDGE.asked("temper: the others are as they were", deaf, x -> x.temper(0, 0), 0);
@@ -304,8 +298,8 @@ public final class VillagesEdgeTest {
         }
         for (int n = 2; n <= 6; n++) {
             int last = n - 1;
-            EDGE.taken("friendOf: the first, the last", villages(n), x -> x.friendOf(0, last), 0);
-            EDGE.taken("friendOf: the last, the first", villages(n), x -> x.friendOf(last, 0), last);
+            EDGE.taken("friendOf: the first, the last", Valleys.villages(n), x -> x.friendOf(0, last), 0);
+            EDGE.taken("friendOf: the last, the first", Valleys.villages(n), x -> x.friendOf(last, 0), last);
         }
     }
 
@@ -331,10 +325,7 @@ public final class VillagesEdgeTest {
 
     private static void changeAlikeIsBad() {
         for (Valleys valley : Valleys.ALL) {
-            for (int v = 0; v < valley.n; v++) {
-                int alike = v;
-                EDGE.bad("change, alike: " + v, valley, x -> x.change(alike, alike));
-            }
+            EDGE.badForEach("change, alike", valley, (x, alike) -> x.change(alike, alike));
         }
     }
 
@@ -367,19 +358,16 @@ public final class VillagesEdgeTest {
         }
         for (int n = 2; n <= 6; n++) {
             int last = n - 1;
-            EDGE.taken("need: the first village, the last wind", villages(n), x -> x.need(0, 3, 2), 0);
-            EDGE.taken("need: the last village, the first wind", villages(n), x -> x.need(last, 0, 1), 0);
+            EDGE.taken("need: the first village, the last wind", Valleys.villages(n), x -> x.need(0, 3, 2), 0);
+            EDGE.taken("need: the last village, the first wind", Valleys.villages(n), x -> x.need(last, 0, 1), 0);
         }
     }
 
     private static void needSeenByItselfIsBad() {
         for (Valleys valley : Valleys.ALL) {
-            for (int v = 0; v < valley.n; v++) {
-                int own = v;
-                int all = (1 << valley.n) - 1;
-                EDGE.bad("seen by itself alone: " + v, valley, x -> x.need(own, 0, 1 << own));
-                EDGE.bad("seen by all, itself, too: " + v, valley, x -> x.need(own, 0, all));
-            }
+            int all = (1 << valley.n) - 1;
+            EDGE.badForEach("seen by itself alone", valley, (x, own) -> x.need(own, 0, 1 << own));
+            EDGE.badForEach("seen by all, itself, too", valley, (x, own) -> x.need(own, 0, all));
         }
     }
 
@@ -389,9 +377,9 @@ public final class VillagesEdgeTest {
                 int own = v;
                 int others = (1 << n) - 1 - (1 << v);
                 int none = others | 1 << n;
-                EDGE.taken("seen by none: " + v, villages(n), x -> x.need(own, 0, 0), 0);
-                EDGE.taken("seen by all others: " + v, villages(n), x -> x.need(own, 0, others), 0);
-                EDGE.bad("and by one that is none: " + v, villages(n), x -> x.need(own, 0, none));
+                EDGE.taken("seen by none: " + v, Valleys.villages(n), x -> x.need(own, 0, 0), 0);
+                EDGE.taken("seen by all others: " + v, Valleys.villages(n), x -> x.need(own, 0, others), 0);
+                EDGE.bad("and by one that is none: " + v, Valleys.villages(n), x -> x.need(own, 0, none));
             }
         }
     }
@@ -457,8 +445,8 @@ public final class VillagesEdgeTest {
         for (int n = 2; n <= 6; n++) {
             int last = n - 1;
             int others = (1 << last) - 1;
-            EDGE.asked("heard nowhere", villages(n), x -> x.heard(last, 3), 0);
-            Valleys loud = villages(n).and(x -> {
+            EDGE.asked("heard nowhere", Valleys.villages(n), x -> x.heard(last, 3), 0);
+            Valleys loud = Valleys.villages(n).and(x -> {
                 for (int v = 0; v < last; v++) {
                     x.hears(last, 3, v, true);
                 }
@@ -467,9 +455,5 @@ public final class VillagesEdgeTest {
             EDGE.asked("not in the wind ahead", loud, x -> x.heard(last, 2), 0);
             EDGE.asked("but for the wood", loud.and(x -> x.wood(last, 0)), x -> x.heard(last, 3), others & ~1);
         }
-    }
-
-    private static Valleys villages(int n) {
-        return Valleys.of(x -> x.villages(n));
     }
 }
