@@ -24,9 +24,7 @@ public final class ModelTest {
             calls = 0;
             // some runs are of wild numbers, most of such as are mostly taken
             int wild = run % 5 == 0 ? 3 : 40;
-            if (run % 3 == 0) {
-                fill();
-            }
+            begin(run % 4);
             while (calls < CALLS) {
                 step(run, wild);
             }
@@ -34,8 +32,17 @@ public final class ModelTest {
         check.end();
     }
 
-    /** A valley in which much is heard, much is shut, and few needs are seen by most: it has many like ways. */
-    private void fill() {
+    private void begin(int how) {
+        switch (how) {
+            case 0: manyLikeWays(); break;
+            case 1: temperAgainstTemper(); break;
+            case 2: ringAfterRing(); break;
+            default: // as it is at first
+        }
+    }
+
+    /** A valley in which much is heard, much is shut, and few needs are seen by most. */
+    private void manyLikeWays() {
         int n = 4 + below(3);
         due("villages", x.villages(n), m.villages(n));
         for (int i = 0; i < 4 * n * n; i++) {
@@ -59,6 +66,56 @@ public final class ModelTest {
             due("ropes", x.ropes(-1), m.ropes(-1));
             for (int bell = 0; bell < n; bell++) {
                 due("ropes", x.ropes(bell), m.ropes(bell));
+            }
+        }
+    }
+
+    /** Few villages, each heard in all others, and twelve needs, so that much is owed, refused and paid back. */
+    private void temperAgainstTemper() {
+        int n = 2 + below(3);
+        due("villages", x.villages(n), m.villages(n));
+        for (int i = 0; i < n * n; i++) {
+            int bell = i / n;
+            int village = i % n;
+            due("hears", x.hears(bell, 0, village, true), m.hears(bell, 0, village, true));
+        }
+        for (int i = 0; i < 12; i++) {
+            int v = below(n);
+            int seen = (1 << n) - 1 & ~(1 << v) & ~(below(3) == 0 ? 1 << below(n) : 0);
+            due("need", x.need(v, 0, seen), m.need(v, 0, seen));
+        }
+        for (int i = 0; i < 16; i++) {
+            int v = below(n);
+            int temper = below(6);
+            int friend = below(n);
+            due("temper", x.temper(v, temper), m.temper(v, temper));
+            due("friendOf", x.friendOf(v, friend), m.friendOf(v, friend));
+            due("favours", x.favours(v, friend), m.favours(v, friend));
+            due("last", x.last(v, friend), m.last(v, friend));
+            for (int need = 0; need < 12; need++) {
+                due("rang", x.rang(need, 1), m.rang(need, 1));
+            }
+        }
+    }
+
+    /** Few bells are heard, so that rings are long, and there are not many of them. */
+    private void ringAfterRing() {
+        int n = 5 + below(2);
+        due("villages", x.villages(n), m.villages(n));
+        for (int i = 0; i < n; i++) {
+            int a = below(n);
+            int b = below(n);
+            due("change", x.change(a, b), m.change(a, b));
+        }
+        for (int i = 0; i < 40; i++) {
+            int bell = below(n);
+            int wind = below(4);
+            int village = below(n);
+            // once there are some, one is told off for one told
+            boolean is = i < 8 || below(2) == 0;
+            due("hears", x.hears(bell, wind, village, is), m.hears(bell, wind, village, is));
+            for (int at = -1; at < n; at++) {
+                due("ring", x.ring(at), m.ring(at));
             }
         }
     }
@@ -144,7 +201,9 @@ public final class ModelTest {
             int n = below(10);
             due("type", x.type(bytes, n), m.type(bytes, n));
         } else {
-            due("clear", x.clear(), m.clear());
+            if (below(4) != 0) {
+                due("clear", x.clear(), m.clear());
+            }
             typeTale();
         }
         due("read", x.read(), m.read());
@@ -153,8 +212,10 @@ public final class ModelTest {
     private void typeTale() {
         StringBuilder tale = new StringBuilder("villages " + (below(20) == 0 ? below(10) : 3 + below(4)) + ";");
         int items = below(16);
+        // one word alone may tell more than there is room for
+        int alone = below(3) == 0 ? 1 + below(5) : 0;
         for (int i = 0; i < items; i++) {
-            int word = below(60) == 0 ? below(WORDS.length) : 1 + below(5);
+            int word = below(60) == 0 ? below(WORDS.length) : alone != 0 ? alone : 1 + below(5);
             tale.append(WORDS[word]);
             for (int k = 0; k < NUMBERS[word]; k++) {
                 // the second of hears and need is a wind; mostly small ones are taken

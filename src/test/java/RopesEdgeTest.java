@@ -9,6 +9,9 @@ public final class RopesEdgeTest {
         ropesWhenAllIsHeard();
         ropesOfTwelveNeeds();
         ropesTheFirstOfLikeOnes();
+        ropesByWhoRingsEachBell();
+        ropesCountNeeds();
+        ropesMindNoTempers();
         ropesNeverNone();
         ropeNumbers();
         ringNumbers();
@@ -18,11 +21,13 @@ public final class RopesEdgeTest {
         ringOfAllSix();
         ringOfTheFewest();
         ringTheFirstOfLikeOnes();
+        ringByItsOwnOrder();
         ringBehindWoods();
         wordNumbers();
         wordThatNobodyHears();
         wordAllRound();
         wordGoesByRopes();
+        wordOfThreeChangedRopes();
         fellOfNothing();
         fellOfAllEight();
         fellOfTheFirstAndTheLastBell();
@@ -30,6 +35,7 @@ public final class RopesEdgeTest {
         fellNone();
         fellTheFewest();
         fellTheLeastBitsOfLikeOnes();
+        fellMindsNoTempers();
         EDGE.end();
     }
 
@@ -125,6 +131,40 @@ public final class RopesEdgeTest {
             x.need(0, 0, 60);
         });
         ropesAre("and 3 bell 1", two, 2, 2, 3, 0, 1, 4, 5);
+    }
+
+    /** The first by who rings bell 0, 1, .. is not the first by which bell village 0, 1, .. rings. */
+    private static void ropesByWhoRingsEachBell() {
+        Valleys need = Valleys.of(x -> {
+            x.hears(0, 0, 1, true);
+            x.hears(1, 0, 0, true);
+            x.hears(3, 0, 2, true);
+            x.need(1, 0, 8);
+        });
+        ropesAre("3 rings bell 0; 0 not bell 1, 2 not bell 3", need, 1, 3, 1, 2, 0);
+    }
+
+    /** 4 and 5 could both be due for the two needs of 0; 4 is of more use where it alone sees one. */
+    private static void ropesCountNeeds() {
+        Valleys needs = Valleys.villages(6).and(x -> {
+            x.hears(2, 0, 0, true);
+            x.hears(3, 0, 0, true);
+            x.hears(0, 0, 1, true);
+            x.need(0, 0, 48);
+            x.need(0, 0, 48);
+            x.need(1, 0, 16);
+        });
+        ropesAre("needs count, not how many are due", needs, 3, 4, 0, 1, 5, 2, 3);
+    }
+
+    private static void ropesMindNoTempers() {
+        Valleys proud = Valleys.of(x -> {
+            x.hears(0, 0, 1, true);
+            x.need(1, 0, 4);
+            x.temper(2, 4);
+        });
+        EDGE.asked("2 would not ring", proud.and(x -> x.change(0, 2)), x -> x.rang(0, 1), 0);
+        ropesAre("but it is due", proud, 1, 2, 0, 1, 3);
     }
 
     /** Each may ring its own, so that there always is a way. */
@@ -231,6 +271,12 @@ public final class RopesEdgeTest {
         ringIs("by the second, not by the third", favours(6, second), 0, 2, 1);
     }
 
+    /** Of 0, 2, 4 and 0, 3, 1 the first is told by the numbers as they follow, not by who is in it. */
+    private static void ringByItsOwnOrder() {
+        int[][] two = {{0, 3}, {3, 1}, {1, 0}, {0, 2}, {2, 4}, {4, 0}};
+        ringIs("by the second, though 1 is in the other one", favours(6, two), 0, 2, 4);
+    }
+
     private static void ringBehindWoods() {
         Valleys two = favours(2, new int[][] {{0, 1}, {1, 0}});
         ringIs("a wood shuts it", two.and(x -> x.wood(0, 1)));
@@ -300,6 +346,17 @@ public final class RopesEdgeTest {
             x.change(0, 1);
         });
         EDGE.asked("who hears itself is nobody more", itself, x -> x.word(1, 0, 0), 0);
+    }
+
+    private static void wordOfThreeChangedRopes() {
+        Valleys three = Valleys.of(x -> {
+            x.change(0, 1);
+            x.change(1, 2);
+            x.hears(2, 0, 3, true);
+        });
+        EDGE.asked("0 rings bell 2, heard in 3", three, x -> x.word(0, 0, 1), 9);
+        EDGE.asked("1 rings bell 0, heard nowhere", three, x -> x.word(1, 0, 1), 2);
+        EDGE.asked("2 rings bell 1, heard nowhere", three, x -> x.word(2, 0, 1), 4);
     }
 
     // ---- 22: FELL, as bits. NONE
@@ -394,5 +451,10 @@ public final class RopesEdgeTest {
         EDGE.asked("that does good", behind(6, 3, 2, 1), BlindBells::fell, 2);
         EDGE.asked("two and two", behind(14, 1, 2, 3, 3, 2, 1), BlindBells::fell, 12);
         EDGE.asked("one each", behind(2, 3, 2, 1).and(x -> x.need(0, 0, 12)), BlindBells::fell, 5);
+    }
+
+    private static void fellMindsNoTempers() {
+        Valleys proud = woods(2).and(x -> x.temper(1, 4));
+        EDGE.asked("1 would not ring, but is due", proud, BlindBells::fell, 3);
     }
 }

@@ -8,6 +8,7 @@ public final class ValleyRunEdgeTest {
         dueIsTheOneWhoPullsTheRope();
         dueMayBeNobodyOrAllOthers();
         ringsHerOwnBellForNobody();
+        dueThoughItHearsWhatItRings();
         trueAlwaysRings();
         titRingsForWhomNeverWasDue();
         titGoesByTheLastTime();
@@ -20,6 +21,7 @@ public final class ValleyRunEdgeTest {
         fondOfItselfIsFondOfNone();
         proudOwesNothingAtFirst();
         proudOwesTillItHasPaid();
+        proudIsUnderTrueAlone();
         deafRingsAsTrueDoes();
         allAtOnceByWhatWasAhead();
         helpedIfOneRings();
@@ -104,6 +106,16 @@ public final class ValleyRunEdgeTest {
         x.need(0, 0, 14);
         EDGE.due("0 rings what it hears, and is not due", x.rang(0, 0), 0);
         EDGE.due("nor helped by it", x.helped(0), 0);
+    }
+
+    private static void dueThoughItHearsWhatItRings() {
+        BlindBells x = new BlindBells();
+        x.hears(1, 0, 0, true);
+        x.hears(1, 0, 2, true);
+        x.change(1, 2);
+        x.need(0, 0, 6);
+        EDGE.due("2 rings what it hears, and is due", x.rang(0, 0), 4);
+        EDGE.due("and rings", x.rang(0, 1), 4);
     }
 
     // ---- 0 TRUE: it does
@@ -291,6 +303,24 @@ public final class ValleyRunEdgeTest {
         x.need(0, 0, 2);
         // PROUD is under TRUE, not under TIT: only what is owed counts
         rang(x, "two owed, two paid, no third; TIT pays back", 2, 2, 1, 1, 0, 0);
+    }
+
+    private static void proudIsUnderTrueAlone() {
+        BlindBells x = allHear(2, PROUD, SULKY);
+        x.need(0, 0, 2);
+        x.need(1, 0, 0);
+        x.need(0, 0, 2);
+        x.need(1, 0, 1);
+        rang(x, "refused the last time, it pays what it owes: not as TIT", 2, 0, 0, 1);
+        x = allHear(2, PROUD);
+        x.need(0, 0, 2);
+        x.need(0, 0, 0);
+        x.need(1, 0, 1);
+        rang(x, "let down right ahead, it pays: not as SULKY", 2, 0, 1);
+        x = allHear(2, PROUD);
+        x.friendOf(0, 1);
+        x.need(1, 0, 1);
+        rang(x, "it owes its friend nothing: not as FOND", 0);
     }
 
     // ---- 5 DEAF: as TRUE in place of SULKY

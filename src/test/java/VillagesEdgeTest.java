@@ -35,6 +35,7 @@ public final class VillagesEdgeTest {
         undoOfAllTwelve();
         heardNumbers();
         heardNowhereAndEverywhere();
+        toldAndTakenBack();
         EDGE.end();
     }
 
@@ -454,6 +455,27 @@ public final class VillagesEdgeTest {
             EDGE.asked("heard in all others", loud, x -> x.heard(last, 3), others);
             EDGE.asked("not in the wind ahead", loud, x -> x.heard(last, 2), 0);
             EDGE.asked("but for the wood", loud.and(x -> x.wood(last, 0)), x -> x.heard(last, 3), others & ~1);
+        }
+    }
+
+    // ---- each call tells its one thing, and nothing else: told, and told back, all is as it was
+
+    private static void toldAndTakenBack() {
+        for (Valleys valley : Valleys.ALL) {
+            int last = valley.n - 1;
+            int friend = valley.make().friendOf(last, 0);
+            int temper = valley.make().temper(0, 3);
+            boolean heard = valley.make().hears(last, 1, 0, true) == BlindBells.NO;
+            EDGE.asked("ropes changed twice", valley, x -> x.change(0, last) + x.change(last, 0), 2);
+            EDGE.asked("heard, or not, and back", valley,
+                x -> x.hears(last, 1, 0, !heard) + x.hears(last, 1, 0, heard), 2);
+            EDGE.asked("a temper, and back", valley, x -> 10 * x.temper(0, 3) + x.temper(0, temper), 10 * temper + 3);
+            EDGE.asked("a friend, and back", valley, x -> 10 * x.friendOf(last, 0) + x.friendOf(last, friend),
+                10 * friend);
+        }
+        for (Valleys valley : new Valleys[] {Valleys.NEW, Valleys.BUSY_2, Valleys.BUSY_4, Valleys.BUSY_6}) {
+            int needs = valley.make().count(2);
+            EDGE.asked("a need, undone", valley, x -> 100 * x.need(0, 1, 2) + x.undo(), 101 * needs);
         }
     }
 }
